@@ -11,6 +11,7 @@ public final class ActsTest {
     attackWithTwoDice();
     attackRefused();
     guards();
+    sidesThatReact();
     strikesBack();
     reactionsOnReactions();
     attackComesToNothing();
@@ -144,7 +145,7 @@ public final class ActsTest {
     t.ready('a', 'g');
     t.endTurn();
     tell(t, 11);
-    Expect.same("29 two of three are near: 16", t.attack(0), -1);
+    Expect.same("29 two of three are near: 15 misses 16", t.attack(0), -1);
     Expect.no("28 used up", t.canReact(0));
     Expect.no("28 used up by the second", t.canReact(1));
     Expect.no("28 used up by the far one", t.canReact(2));
@@ -154,6 +155,45 @@ public final class ActsTest {
     t.endTurn();
     tell(t, 8);
     Expect.same("29 for this attack alone", t.attack(0), 5);
+    nextRound(t);
+    t.ready('a', 'g');
+    t.endTurn();
+    t.ready('a', 'g');
+    t.endTurn();
+    t.ready('a', 'g');
+    t.endTurn();
+    tell(t, 12);
+    Expect.same("29 16 hits 16", t.attack(0), 5);
+  }
+
+  private static void sidesThatReact() {
+    HeroTable t = new HeroTable();
+    t.addHero(0, 40, 30, 1, 2);
+    t.addHero(0, 40, 20, 1, 1);
+    t.addHero(1, 40, 10, 2, 1);
+    t.begin();
+    t.ready('a', 's');
+    t.endTurn();
+    t.attack(2);
+    Expect.yes("29 the side of who attacks does not react", t.canReact(0));
+    Expect.same("7 it was not struck", t.lifeOf(1), 40);
+    t.endTurn();
+    t.endTurn();
+    t.ready('a', 's');
+    t.endTurn();
+    t.attack(0);
+    Expect.no("29 who is attacked by its own side", t.canReact(0));
+    Expect.same("7 strikes back", t.lifeOf(1), 35);
+    Expect.same("7 and was struck", t.lifeOf(0), 35);
+    t.endTurn();
+    t.endTurn();
+    t.ready('a', 's');
+    t.afflict(0, 's', 0, 0, 0);
+    t.endTurn();
+    t.endTurn();
+    t.attack(0);
+    Expect.yes("29 who is stunned keeps its reaction", t.canReact(0));
+    Expect.same("7 and does nothing", t.lifeOf(2), 35);
   }
 
   private static void strikesBack() {
@@ -277,7 +317,8 @@ public final class ActsTest {
     t.begin();
     Expect.refuses("30 dx -2", BAD, () -> t.step(-2, 0));
     Expect.refuses("30 dy 2", BAD, () -> t.step(0, 2));
-    Expect.refuses("30 dy -2", BAD, () -> t.step(0, Integer.MIN_VALUE));
+    Expect.refuses("30 dy -2", BAD, () -> t.step(0, -2));
+    Expect.refuses("30 dy far", BAD, () -> t.step(0, Integer.MIN_VALUE));
     Expect.refuses("30 both 0", BAD, () -> t.step(0, 0));
     Expect.refuses("30 no cell", CAN_NOT, () -> t.step(-1, 0));
     Expect.refuses("30 no row", CAN_NOT, () -> t.step(0, -1));
@@ -325,6 +366,16 @@ public final class ActsTest {
     Expect.yes("30 to one who is not", other.step(-1, 0));
     Expect.no("28 who has", other.canReact(0));
     Expect.same("7 struck", other.lifeOf(1), 35);
+    // Up from (2, 3) to (2, 2): near (1, 1) now, and not before.
+    HeroTable up = new HeroTable();
+    up.addHero(0, 40, 20, 1, 1);
+    up.addHero(1, 40, 10, 2, 3);
+    up.begin();
+    up.ready('m', 's');
+    up.endTurn();
+    up.step(0, -1);
+    Expect.same("7 struck from above", up.lifeOf(1), 35);
+    Expect.no("28 has reacted", up.canReact(0));
   }
 
   private static void stand() {
@@ -593,7 +644,14 @@ public final class ActsTest {
     Expect.no("35 13 is less than half of 28", t.minds(0));
     t.endTurn();
     t.cast('b', 1, 1);
+    t.setBase(1, 'd', 1);
+    t.endTurn();
+    tell(t, 8, 8);
+    t.attack(0);
+    Expect.same("35 a check for 1", t.dice(), 0);
+    Expect.yes("35 minds on behind it", t.minds(0));
     t.setBase(1, 'd', 0);
+    t.endTurn();
     t.endTurn();
     tell(t, 8, 1);
     Expect.same("29 no harm", t.attack(0), 0);

@@ -141,7 +141,10 @@ public final class HeroesTest {
     HeroTable t = duel(20);
     t.attack(1);
     Expect.same("6 hurt", t.lifeOf(1), 15);
+    t.addSource(1, 'a', 'u', 3, 0, 0);
+    t.afflict(1, 'p', 0, 0, 0);
     Expect.same("6 some", t.heal(1, 2), 17);
+    Expect.yes("6 ends nothing else", t.isLive(0) && t.isLive(1));
     Expect.same("6 up to the greatest", t.heal(1, 99), 20);
     Expect.refuses("6 no hero", NO_INDEX, () -> t.heal(2, 0));
     Expect.refuses("6 0", BAD, () -> t.heal(0, 0));

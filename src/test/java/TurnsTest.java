@@ -28,6 +28,8 @@ public final class TurnsTest {
     Expect.same("21 left", t.dice(), 2);
     t.addHero(0, 20, 5, 0, 0);
     t.afflict(0, 'p', 22, 0, 0);
+    t.afflict(0, 'b', 13, 0, 0);
+    t.endSource(1);
     t.begin();
     t.endTurn();
     Expect.same("21 one used", t.dice(), 1);
@@ -35,6 +37,11 @@ public final class TurnsTest {
     t.endTurn();
     Expect.same("21 none left", t.dice(), 0);
     Expect.no("20 the second one", t.isLive(0));
+    t.afflict(0, 'p', 13, 0, 0);
+    t.afflict(0, 'b', 12, 0, 0);
+    t.endTurn();
+    Expect.yes("21 without any a die is 10, and no more", t.isLive(2));
+    Expect.no("21 and no less", t.isLive(3));
     Expect.same("20 one again", t.tellDie(5), 1);
     HeroTable many = new HeroTable();
     for (int i = 1; i <= 511; i++) {
@@ -62,6 +69,11 @@ public final class TurnsTest {
     Expect.same("23 the first again", t.endTurn(), 1);
     Expect.same("26 second round", t.round(), 2);
     Expect.refuses("22 a turn is on", STATE, () -> t.begin());
+    t.rest();
+    Expect.same("22 in the same order", t.begin(), 1);
+    for (int hero : next) {
+      Expect.same("23 in the same order", t.endTurn(), hero);
+    }
   }
 
   private static void noFight() {
