@@ -28,11 +28,11 @@ public final class RefusalsTest {
       table.addHero(i % 2, 10 + i, random.nextInt(31), i, random.nextInt(3));
     }
     for (int i = 4; i < 512; i++) {
-      String before = picture();
+      String before = Picture.of(table);
       Object outcome = Expect.outcome(this::anyCall);
       if (outcome instanceof String) {
         Expect.yes("throws " + outcome, TOLD.contains((String) outcome));
-        Expect.same("nothing changed by " + outcome, picture(), before);
+        Expect.same("nothing changed by " + outcome, Picture.of(table), before);
       }
     }
     Expect.yes("sound", table.isSound());
@@ -69,47 +69,5 @@ public final class RefusalsTest {
       case 19: return table.again(number(), number(), number());
       default: return table.sees(number(), number(), number());
     }
-  }
-
-  /** All that can be asked of the table. */
-  private String picture() {
-    StringBuilder all = new StringBuilder();
-    for (int h = 0; h < 6; h++) {
-      int hero = h;
-      add(all, () -> table.lifeOf(hero));
-      add(all, () -> table.spareOf(hero));
-      add(all, () -> table.cellOf(hero));
-      add(all, () -> table.canReact(hero));
-      add(all, () -> table.slots(hero));
-      add(all, () -> table.minds(hero));
-      for (char sign : "atdsw".toCharArray()) {
-        add(all, () -> table.numberOf(hero, sign));
-      }
-      for (char sign : "psbihd".toCharArray()) {
-        add(all, () -> table.has(hero, sign));
-      }
-      for (int cell = 0; cell < 64; cell++) {
-        int c = cell;
-        add(all, () -> table.sees(hero, c % 8, c / 8));
-      }
-    }
-    for (int s = 0; s < table.sources(); s++) {
-      int source = s;
-      add(all, () -> table.isLive(source));
-    }
-    add(all, () -> table.sources());
-    add(all, () -> table.dice());
-    add(all, () -> table.turn());
-    add(all, () -> table.round());
-    add(all, () -> table.steps());
-    add(all, () -> table.kept());
-    add(all, () -> table.harmDone());
-    add(all, () -> table.hitShare());
-    add(all, () -> table.meanLife());
-    return all.toString();
-  }
-
-  private static void add(StringBuilder all, Expect.Call call) {
-    all.append(Expect.outcome(call)).append(' ');
   }
 }

@@ -13,6 +13,16 @@ final class Expect {
     Object make();
   }
 
+  /** What a call does with a number. */
+  interface OfNumber {
+    Object make(int value);
+  }
+
+  /** What a call does with a sign. */
+  interface OfSign {
+    Object make(char sign);
+  }
+
   static void same(String what, Object got, Object due) {
     asked++;
     if (!Objects.equals(got, due)) {
@@ -31,6 +41,41 @@ final class Expect {
 
   static void refuses(String what, Class<? extends RuntimeException> due, Call call) {
     same(what, outcome(call), due.getSimpleName());
+  }
+
+  static void answers(String what, Call call) {
+    Object got = outcome(call);
+    same(what + ": " + got, got instanceof String, false);
+  }
+
+  /** The least and the greatest are taken, the next ones beyond and the very far ones are not. */
+  static void range(
+      String what, Class<? extends RuntimeException> due, int least, int most, OfNumber call) {
+    answers(what + ": the least " + least, () -> call.make(least));
+    answers(what + ": the greatest " + most, () -> call.make(most));
+    beyond(what, due, least, most, call);
+  }
+
+  /** The next ones beyond a range and the very far ones are refused. */
+  static void beyond(
+      String what, Class<? extends RuntimeException> due, int least, int most, OfNumber call) {
+    for (int v : new int[] {least - 1, most + 1, Integer.MIN_VALUE, Integer.MAX_VALUE}) {
+      refuses(what + ": beyond, " + v, due, () -> call.make(v));
+    }
+  }
+
+  /** These signs are taken, and no others; some others differ by what a byte does not hold. */
+  static void signs(
+      String what, Class<? extends RuntimeException> due, String known, OfSign call) {
+    for (char c = 0; c < 640; c++) {
+      char sign = c;
+      if (known.indexOf(sign) >= 0) {
+        answers(what + ": the sign " + sign, () -> call.make(sign));
+      } else {
+        refuses(what + ": the sign number " + (int) sign, due, () -> call.make(sign));
+      }
+    }
+    refuses(what + ": the last sign", due, () -> call.make(Character.MAX_VALUE));
   }
 
   /** The answer of a call, or the name of what it throws. */
