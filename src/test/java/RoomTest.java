@@ -9,8 +9,8 @@ public final class RoomTest {
     // So that nothing that the machine makes once is measured.
     replays();
     spells();
-    small("512 calls, half of them replays", replays(), 1 << 18);
-    small("spells in all turns", spells(), 1 << 18);
+    small("512 calls, half of them replays", replays(), 1 << 19);
+    small("spells in all turns", spells(), 1 << 19);
     long before = bytes();
     HeroTable table = new HeroTable();
     small("a new object", bytes() - before, 1 << 13);
